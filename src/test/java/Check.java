@@ -25,7 +25,7 @@ final class Check {
         }
     }
 
-    /** That just this exception is thrown, and that the call leaves the object as it was. */
+    /** That the class itself throws just this exception, and that the call leaves the object as it was. */
     static void refused(String call, TimeWords x, Class<? extends RuntimeException> want, LongSupplier tried) {
         String before = look(x);
         Class<?> got = null;
@@ -33,11 +33,18 @@ final class Check {
             tried.getAsLong();
         } catch (RuntimeException e) {
             got = e.getClass();
+            due(call + " throws by a throw of its own", isOwn(e), true);
         }
         if (got != want) {
             fail(call + " threw " + got + ", due is " + want);
         }
         due("the object after " + call, look(x), before);
+    }
+
+    /** Whether a throw in the class made it, and not the library or the machine. */
+    static boolean isOwn(Throwable thrown) {
+        StackTraceElement[] trace = thrown.getStackTrace();
+        return trace.length > 0 && trace[0].getClassName().startsWith("TimeWords");
     }
 
     static void noIndex(String call, TimeWords x, LongSupplier tried) {
@@ -52,7 +59,10 @@ final class Check {
         refused(call, x, IllegalStateException.class, tried);
     }
 
-    /** All of the object that can be looked at without a change to it. */
+    /**
+     * All of the object that can be looked at without a change to it. Looking may go beyond the 512
+     * calls that the document promises anything for; the class does not count its calls.
+     */
     private static String look(TimeWords x) {
         StringBuilder seen = new StringBuilder();
         int width = x.width(0);

@@ -1,6 +1,8 @@
 import java.time.DayOfWeek;
 import java.time.LocalDate;
 import java.time.temporal.TemporalAdjusters;
+import java.util.ArrayList;
+import java.util.List;
 
 /** Each promise of the document: ordinary inputs, the edges that it names, wrong inputs. */
 public final class PromisesTest {
@@ -33,6 +35,8 @@ public final class PromisesTest {
         wordOfAllCenturies();
         wordRefused();
         near();
+        nearOfChangedNames();
+        nearLongNames();
         feast();
         feastAgainstLibrary();
         regnal();
@@ -226,7 +230,7 @@ public final class PromisesTest {
         Check.due("late early 5c", Check.meaning(x, "late early 5c"), "423..433");
         Check.due("early before 5c", Check.meaning(x, "early before 5c"), "none");
         Check.due("late after 5c", Check.meaning(x, "late after 5c"), "none");
-        String[] none = {"early", "early ", "early  5c", "early5c", " early 5c", "earl 5c", "early 5", "5c early", "middle 5c"};
+        String[] none = {"early", "early ", "early  5c", "early5c", " early 5c", "earl 5c", "early 5", "5c early", "middle 5c", "barly 5c", "did 5c", "earlx 5c"};
         for (String text : none) {
             Check.due("'" + text + "'", Check.meaning(x, text), "none");
         }
@@ -530,6 +534,8 @@ public final class PromisesTest {
         for (int i = 0; i < due.length; i++) {
             Check.due("word of span " + i, Check.say(x, i), due[i]);
         }
+        reignOf(x, "years", 412, 422);
+        Check.due("the first name", Check.say(x, 8), "years");
         reignOf(x, "midway", 434, 466);
         Check.due("'mid 5c' is ahead of 'midway'", Check.say(x, 1), "mid 5c");
         reignOf(x, "lowest", 434, 466);
@@ -646,6 +652,70 @@ public final class PromisesTest {
         Check.due("the pad after near()", Check.tell(x, x.read(0, 0)), "401..500");
     }
 
+    /** Each pad is some name with a sign changed, put in or left out, or two such changes. */
+    private static void nearOfChangedNames() {
+        String[] names = {"henry", "harold", "john", "henri", "jo"};
+        for (String name : names) {
+            for (String once : changedOnce(name)) {
+                nearAsTold(once, names);
+                nearAsTold(once + "o", names);
+                nearAsTold("j" + once, names);
+            }
+        }
+    }
+
+    private static List<String> changedOnce(String text) {
+        List<String> all = new ArrayList<>();
+        for (int i = 0; i <= text.length(); i++) {
+            for (String sign : new String[] {"", "h", "n", "o", "7", " "}) {
+                all.add(text.substring(0, i) + sign + text.substring(i));
+                all.add(text.substring(0, i) + sign + text.substring(Math.min(i + 1, text.length())));
+            }
+        }
+        return all;
+    }
+
+    private static void nearAsTold(String pad, String[] names) {
+        TimeWords x = new TimeWords();
+        for (String name : names) {
+            Check.name(x, name);
+        }
+        int nearest = 0;
+        for (int i = 1; i < names.length; i++) {
+            if (changesAsTold(pad, names[i]) < changesAsTold(pad, names[nearest])) {
+                nearest = i;
+            }
+        }
+        Check.type(x, pad);
+        Check.due("near() of '" + pad + "'", x.near(), nearest);
+    }
+
+    private static int changesAsTold(String a, String b) {
+        if (a.isEmpty() || b.isEmpty()) {
+            return a.length() + b.length();
+        }
+        if (a.charAt(0) == b.charAt(0)) {
+            return changesAsTold(a.substring(1), b.substring(1));
+        }
+        int changed = changesAsTold(a.substring(1), b.substring(1));
+        int leftOut = changesAsTold(a.substring(1), b);
+        int putIn = changesAsTold(a, b.substring(1));
+        return 1 + Math.min(changed, Math.min(leftOut, putIn));
+    }
+
+    private static void nearLongNames() {
+        TimeWords x = new TimeWords();
+        Check.name(x, "abcdefgh");
+        Check.name(x, "abcdefgx");
+        Check.name(x, "xbcdefgh");
+        String[] pads = {"abcdefgh", "abcdefgx", "xbcdefgh", "bcdefgx", "xxbcdefg", "abcdefg", "abcdefghabcdefghabcdefgx"};
+        int[] due = {0, 1, 2, 1, 2, 0, 0};
+        for (int i = 0; i < pads.length; i++) {
+            Check.type(x, pads[i]);
+            Check.due("near() of '" + pads[i] + "'", x.near(), due[i]);
+        }
+    }
+
     // Promise 17
     private static void feast() {
         TimeWords x = new TimeWords();
@@ -666,15 +736,15 @@ public final class PromisesTest {
     }
 
     private static void feastAgainstLibrary() {
-        TimeWords x = new TimeWords();
         for (int year = -9999; year <= 9999; year += year > -410 && year < 2410 ? 1 : 37) {
-            feastsOfYear(x, year);
+            feastsOfYear(year);
         }
-        feastsOfYear(x, -9999);
-        feastsOfYear(x, 9999);
+        feastsOfYear(9999);
     }
 
-    private static void feastsOfYear(TimeWords x, int year) {
+    /** All feasts of a year are 504 calls, of the 512 that an object is used for. */
+    private static void feastsOfYear(int year) {
+        TimeWords x = new TimeWords();
         for (int month = 1; month <= 12; month++) {
             LocalDate first = LocalDate.of(year, month, 1);
             for (int weekday = 0; weekday < 7; weekday++) {
