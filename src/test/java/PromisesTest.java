@@ -280,6 +280,7 @@ public final class PromisesTest {
         x.reign(1, 1, 1);
         Check.due("a name like a beginning", Check.meaning(x, "early"), "10..39");
         Check.due("such a name behind that beginning", Check.meaning(x, "early early"), "10..19");
+        Check.due("the name alone, where more stood on the pad", Check.meaning(x, "early"), "10..39");
         Check.due("a name c", Check.meaning(x, "c"), "1..1");
         Check.due("not all of a name", Check.meaning(x, "earl"), "none");
         Check.due("more than a name", Check.meaning(x, "earlyx"), "none");
@@ -530,7 +531,8 @@ public final class PromisesTest {
         x.span(0, 99);
         x.span(-99, 0);
         x.span(412, 422);
-        String[] due = {"5c", "mid 5c", "none", "1c", "early 1c", "none", "none", "none", "none"};
+        x.span(9901, 9933);
+        String[] due = {"5c", "mid 5c", "none", "1c", "early 1c", "none", "none", "none", "none", "none"};
         for (int i = 0; i < due.length; i++) {
             Check.due("word of span " + i, Check.say(x, i), due[i]);
         }
@@ -594,6 +596,10 @@ public final class PromisesTest {
         int fromFirst = x.join(2, x.count(2) - 1);
         Check.due("-9999..", Check.tell(x, fromFirst), "-9999..");
         Check.due("there is no year ahead of it", Check.say(x, fromFirst), "none");
+        x.span(9801, 9900);
+        int toLastCentury = x.join(0, x.count(2) - 1);
+        Check.due("..9900", Check.tell(x, toLastCentury), "..9900");
+        Check.due("there is no century behind it", Check.say(x, toLastCentury), "none");
         Check.read(x, "before about 5c");
         Check.due("no third or century begins there", Check.say(x, x.count(2) - 1), "none");
     }
