@@ -3,8 +3,14 @@ import java.util.function.LongSupplier;
 /** What the tests share: answers that are due, exceptions that are due, and pads typed as texts. */
 final class Check {
     private static int wrong = 0;
+    private static String said = "";
 
     private Check() {
+    }
+
+    /** The sentence of the document that the tests from here on are of; told with what fails. */
+    static void sentence(String text) {
+        said = "[" + text + "] ";
     }
 
     static void due(String call, long got, long want) {
@@ -140,7 +146,7 @@ final class Check {
     static void fail(String told) {
         wrong++;
         if (wrong <= 50) {
-            System.out.println(told);
+            System.out.println(said + told);
         }
     }
 
