@@ -315,7 +315,8 @@ public final class PromisesEdgesTest {
     private static void phaseOfNoYearsOrDay() {
         Check.sentence("6: IllegalArgumentException: a year, from is above to, or the day");
         TimeWords x = withNames("a");
-        int[][] wrong = {{-10000, 0, 0}, {0, 10000, 0}, {1, 0, 0}, {-9998, -9999, 0}, {9999, 9998, 0}, {0, 0, -1}, {0, 0, 100001}, {0, 0, LEAST}, {0, 0, MOST}};
+        int[][] wrong = {{-10000, 0, 0}, {0, 10000, 0}, {1, 0, 0}, {-9998, -9999, 0}, {9999, 9998, 0}, {0, 0, -1}, {0, 0, 100001},
+            {0, 0, LEAST}, {0, 0, MOST}};
         for (int[] w : wrong) {
             Check.noArgument("phase " + w[0] + ".." + w[1] + " of day " + w[2], x, () -> x.phase(0, 0, w[0], w[1], w[2]));
         }
@@ -438,7 +439,8 @@ public final class PromisesEdgesTest {
     private static void spanOfNoYears() {
         Check.sentence("9: IllegalArgumentException: a year, or from is above to");
         TimeWords x = new TimeWords();
-        int[][] wrong = {{-10000, 0}, {0, 10000}, {-10000, -10000}, {10000, 10000}, {1, 0}, {0, -1}, {9999, 9998}, {-9998, -9999}, {LEAST, 0}, {0, MOST}, {MOST, LEAST}};
+        int[][] wrong = {{-10000, 0}, {0, 10000}, {-10000, -10000}, {10000, 10000}, {1, 0}, {0, -1}, {9999, 9998}, {-9998, -9999}, {LEAST, 0},
+            {0, MOST}, {MOST, LEAST}};
         for (int[] y : wrong) {
             Check.noArgument("span " + y[0] + ".." + y[1], x, () -> x.span(y[0], y[1]));
         }
@@ -527,7 +529,8 @@ public final class PromisesEdgesTest {
 
     private static void joinIsTheLeast() {
         Check.sentence("12: The least span that holds both: its number");
-        int[][] cases = {{1, 5, 10, 12, 1, 12}, {1, 5, 6, 6, 1, 6}, {1, 5, 5, 9, 1, 9}, {1, 9, 3, 4, 1, 9}, {1, 9, 1, 9, 1, 9}, {1, 9, 1, 4, 1, 9}, {1, 9, 4, 9, 1, 9},
+        int[][] cases = {{1, 5, 10, 12, 1, 12}, {1, 5, 6, 6, 1, 6}, {1, 5, 5, 9, 1, 9}, {1, 9, 3, 4, 1, 9}, {1, 9, 1, 9, 1, 9},
+            {1, 9, 1, 4, 1, 9}, {1, 9, 4, 9, 1, 9},
             {-9999, -9999, 9999, 9999, -9999, 9999}, {0, 0, 0, 0, 0, 0}};
         for (int[] c : cases) {
             TimeWords x = new TimeWords();
@@ -697,7 +700,8 @@ public final class PromisesEdgesTest {
     private static void wordSaysJustThisSpan() {
         Check.sentence("15: the shortest word that says just this span: a century; a third of one; a name");
         int[][] spans = {{1, 100}, {0, 100}, {2, 100}, {1, 99}, {1, 101}, {9801, 9900}, {9802, 9900}, {9801, 9899}, {9901, 9999}, {-99, 0},
-            {1, 33}, {1, 32}, {1, 34}, {34, 66}, {34, 67}, {67, 100}, {66, 100}, {9801, 9833}, {9834, 9866}, {9867, 9900}, {1, 11}, {5, 5}, {5, 6}, {4, 5},
+            {1, 33}, {1, 32}, {1, 34}, {34, 66}, {34, 67}, {67, 100}, {66, 100}, {9801, 9833}, {9834, 9866}, {9867, 9900}, {1, 11}, {5, 5},
+            {5, 6}, {4, 5},
             {801, 900}, {901, 1000}, {1001, 1100}, {1901, 2000}, {8901, 9000}, {9701, 9800}, {9901, 9933}, {9934, 9966}, {-99, -67}, {-33, 0}};
         String[] due = {"1c", "none", "none", "none", "none", "99c", "none", "none", "none", "none",
             "early 1c", "none", "none", "mid 1c", "none", "late 1c", "none", "early 99c", "mid 99c", "late 99c", "none", "q", "none", "none",
@@ -737,8 +741,10 @@ public final class PromisesEdgesTest {
         x.reign(0, -5, 5);
         x.reign(1, -9998, 9999);
         x.reign(2, -9999, 9998);
-        String[] read = {"before 1c", "after 99c", "before late 99c", "after early 1c", "before q", "after q", "before first", "after last", "before early 2c", "after late 2c", "before about 2c"};
-        String[] due = {"before 1c", "after 99c", "before late 99c", "after early 1c", "before q", "after q", "before first", "after last", "before 2c", "after 2c", "none"};
+        String[] read = {"before 1c", "after 99c", "before late 99c", "after early 1c", "before q", "after q", "before first", "after last",
+            "before early 2c", "after late 2c", "before about 2c"};
+        String[] due = {"before 1c", "after 99c", "before late 99c", "after early 1c", "before q", "after q", "before first", "after last",
+            "before 2c", "after 2c", "none"};
         for (int i = 0; i < read.length; i++) {
             Check.due("word of " + read[i], Check.say(x, Check.read(x, read[i])), due[i]);
         }
@@ -931,7 +937,8 @@ public final class PromisesEdgesTest {
     private static void feastNotSoMany() {
         Check.sentence("17: 0 if there are not so many");
         TimeWords x = new TimeWords();
-        int[][] fifths = {{2023, 2, 2, 0}, {2023, 2, 1, 0}, {2024, 2, 3, 29}, {2024, 2, 2, 0}, {2024, 2, 4, 0}, {2026, 11, 6, 29}, {2026, 11, 0, 30}, {2026, 11, 1, 0}, {2026, 11, 5, 0},
+        int[][] fifths = {{2023, 2, 2, 0}, {2023, 2, 1, 0}, {2024, 2, 3, 29}, {2024, 2, 2, 0}, {2024, 2, 4, 0}, {2026, 11, 6, 29},
+            {2026, 11, 0, 30}, {2026, 11, 1, 0}, {2026, 11, 5, 0},
             {2026, 12, 1, 29}, {2026, 12, 3, 31}, {2026, 12, 4, 0}, {2026, 12, 0, 0}};
         for (int[] f : fifths) {
             Check.due("the fifth " + f[2] + " of " + f[0] + ", " + f[1], x.feast(f[0], f[1], f[2], 5), f[3]);
@@ -999,7 +1006,8 @@ public final class PromisesEdgesTest {
     private static void regnalFirstIsOne() {
         Check.sentence("18: The year in which year n of a name's reign is (its first one is 1)");
         TimeWords x = withNames("q");
-        int[][] cases = {{-9999, 9999, 1, -9999}, {-9999, 9999, 2, -9998}, {-9999, 9999, 10000, 0}, {-9999, 9999, 19998, 9998}, {-9999, 9999, 19999, 9999}, {-1, 1, 1, -1}, {-1, 1, 2, 0}, {-1, 1, 3, 1}, {7, 7, 1, 7}};
+        int[][] cases = {{-9999, 9999, 1, -9999}, {-9999, 9999, 2, -9998}, {-9999, 9999, 10000, 0}, {-9999, 9999, 19998, 9998},
+            {-9999, 9999, 19999, 9999}, {-1, 1, 1, -1}, {-1, 1, 2, 0}, {-1, 1, 3, 1}, {7, 7, 1, 7}};
         for (int[] c : cases) {
             x.reign(0, c[0], c[1]);
             Check.due("year " + c[2] + " of " + c[0] + ".." + c[1], x.regnal(0, c[2]), c[3]);

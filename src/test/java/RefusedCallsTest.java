@@ -122,7 +122,8 @@ public final class RefusedCallsTest {
         for (int what : new int[] {LEAST, -1, 3, MOST}) {
             all.add(new Wrong("count(" + what + ")", INDEX, x -> x.count(what)));
         }
-        for (int[] f : new int[][] {{-10000, 1, 0, 1}, {10000, 1, 0, 1}, {1, 0, 0, 1}, {1, 13, 0, 1}, {1, 1, -1, 1}, {1, 1, 7, 1}, {1, 1, 0, 0}, {1, 1, 0, 6}, {1, 1, 0, -2}}) {
+        for (int[] f : new int[][] {{-10000, 1, 0, 1}, {10000, 1, 0, 1}, {1, 0, 0, 1}, {1, 13, 0, 1}, {1, 1, -1, 1}, {1, 1, 7, 1}, {1, 1, 0, 0},
+            {1, 1, 0, 6}, {1, 1, 0, -2}}) {
             all.add(new Wrong("feast of month " + f[1], ARGUMENT, x -> x.feast(f[0], f[1], f[2], f[3])));
         }
         for (int number : new int[] {LEAST, -1, 60, MOST}) {

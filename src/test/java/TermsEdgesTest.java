@@ -370,7 +370,8 @@ public final class TermsEdgesTest {
     private static void centuryDigitsAndLetter() {
         Check.sentence("of one or two digits and the letter c (99)");
         TimeWords x = new TimeWords();
-        for (String none : new String[] {"c", "5", "55", "5b", "5d", "55b", "55d", "5cc", "555c", "005c", "05 c", "5 5c", "c5c", "5c5", "00c", "ac", "5ac", "a5c"}) {
+        for (String none : new String[] {"c", "5", "55", "5b", "5d", "55b", "55d", "5cc", "555c", "005c", "05 c", "5 5c", "c5c", "5c5", "00c",
+            "ac", "5ac", "a5c"}) {
             Check.due("'" + none + "'", Check.meaning(x, none), "none");
         }
         Check.due("one digit", Check.meaning(x, "7c"), "601..700");
