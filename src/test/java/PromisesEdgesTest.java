@@ -60,6 +60,7 @@ public final class PromisesEdgesTest {
         wordSigns();
         wordOfNoSpan();
         nearByEachKindOfChange();
+        nearByOneChangeWherever();
         nearOfEquallyNearOnes();
         nearLeavesThePad();
         nearWithoutNames();
@@ -849,6 +850,23 @@ public final class PromisesEdgesTest {
         TimeWords z = withNames("abzz", "bacd");
         Check.type(z, "abcd");
         Check.due("two changes are a swap", z.near(), 0);
+    }
+
+    private static void nearByOneChangeWherever() {
+        Check.sentence("16: by letters changed, put in or left out: each is one, at the beginning, within and at the end");
+        String[] byOne = {"xbcd", "axcd", "abcx", "xabcd", "abxcd", "abcdx", "bcd", "acd", "abc"};
+        for (String one : byOne) {
+            for (String other : byOne) {
+                TimeWords x = one.equals(other) ? withNames(one) : withNames(one, other);
+                Check.type(x, "abcd");
+                Check.due("'abcd' is as near to " + one + " as to " + other, x.near(), 0);
+            }
+            for (String byTwo : new String[] {"xbcx", "xxabcd", "abcdxx", "xabcdx", "ab", "cd", "bc", "ad", "bxcd", "abdx"}) {
+                TimeWords x = withNames(byTwo, one);
+                Check.type(x, "abcd");
+                Check.due("'abcd' is nearer to " + one + " than to " + byTwo, x.near(), 1);
+            }
+        }
     }
 
     private static void nearOfEquallyNearOnes() {
