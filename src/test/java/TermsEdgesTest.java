@@ -19,6 +19,7 @@ public final class TermsEdgesTest {
         spansAreNumbered();
         spansAreAtMostSixty();
         padHasAtMost24Signs();
+        padEndsWhereItsSignsEnd();
         signs();
         namesHaveOneToEightLetters();
         namesHaveLettersAlone();
@@ -220,6 +221,19 @@ public final class TermsEdgesTest {
             Check.due("signs", x.clear(), 24);
             Check.due("the first sign of an empty pad", x.unit(sign), 1);
         }
+    }
+
+    private static void padEndsWhereItsSignsEnd() {
+        Check.sentence("WORDS: the pad (and nothing that stood on it before)");
+        TimeWords x = new TimeWords();
+        Check.name(x, "early");
+        x.reign(0, 10, 39);
+        Check.due("early early", Check.meaning(x, "early early"), "10..19");
+        Check.due("early, where a space stood behind", Check.meaning(x, "early"), "10..39");
+        Check.due("5c", Check.meaning(x, "5c"), "401..500");
+        Check.due("5, where a c stood behind", Check.meaning(x, "5"), "none");
+        Check.due("12c", Check.meaning(x, "12c"), "1101..1200");
+        Check.due("1c, where a c stood behind", Check.meaning(x, "1c"), "1..100");
     }
 
     private static void signs() {
@@ -581,7 +595,8 @@ public final class TermsEdgesTest {
         for (int ahead = 0; ahead <= 5; ahead++) {
             Check.due(ahead + " ahead", Check.meaning(x, "mid ".repeat(ahead) + "q"), due[ahead]);
         }
-        // A sixth leaves no sign of the pad for a word behind it.
+        // A sixth leaves no sign of the pad for a word behind it; nor may what was read last stand for one.
+        Check.due("none ahead again", Check.meaning(x, "q"), due[0]);
         Check.due("six ahead", Check.meaning(x, "mid ".repeat(6)), "none");
         Check.name(x, "qq");
         x.reign(1, 1, 729);
